@@ -273,7 +273,8 @@ public final class PromiseTests {
         c.cloud(23, 4, 60);
         salt(c, 0, 1, 2, 3);
         due(c.become(0, 69), 2);
-        due(c.become(0, 40), 6);
+        due(c.become(0, 0), 6);
+        due(c.become(0, 40), 0);
         due(c.ofCloud(0, 0), 4);
         due(c.ofCloud(0, 1), 0);
         due(c.ofCloud(0, 2), 4);
@@ -672,6 +673,10 @@ public final class PromiseTests {
         due(c.count(2), 4);
         c.hours(5);
         due(c.count(2), 4);
+        c.set(1, 1, 1);
+        c.hours(1);
+        due(c.ofCloud(1, 6), 45);
+        due(c.count(2), 5);
     }
 
     private static void looseHours() {
@@ -839,6 +844,28 @@ public final class PromiseTests {
         due(new SaltClouds().first(), NONE);
         due(c.count(1), 0);
         due(c.told(2), 1);
+        firstAtLast();
+    }
+
+    private static void firstAtLast() {
+        SaltClouds c = new SaltClouds();
+        for (int i = 0; i < 8; i++) {
+            c.cloud(0, 0, 100);
+            salt(c, i, 90, 0, 0);
+        }
+        due(c.first(), NONE);
+        salt(c, 7, 30, 0, 0);
+        due(c.first(), NONE);
+        c.set(7, 1, 101);
+        due(c.nobodyBy(7), 200);
+        due(c.first(), 7);
+        c.set(6, 1, 99);
+        salt(c, 6, 10, 0, 0);
+        c.set(5, 1, 98);
+        salt(c, 5, 10, 0, 0);
+        due(c.nobodyBy(6), 2);
+        due(c.nobodyBy(5), 3);
+        due(c.first(), 6);
     }
 
     private static void coming() {
@@ -884,6 +911,14 @@ public final class PromiseTests {
         due(d.comes(19, 0), 3);
         due(d.comes(39, 0), NONE);
         due(d.comes(14, 0), NONE);
+        d.cloud(0, 5, 999);
+        d.cloud(0, 6, 999);
+        salt(d, 2, 99, 0, 0);
+        salt(d, 3, 99, 99, 99);
+        due(d.comes(19, 0), 3);
+        due(d.comes(19, 1), 2);
+        due(d.comes(22, 0), NONE);
+        due(d.comes(23, 0), 11);
     }
 
     private static void staying() {
@@ -975,6 +1010,9 @@ public final class PromiseTests {
         c.put(1, 1, 4);
         c.put(1, 2, 7);
         due(c.storm(1, 1), NONE);
+        c.put(1, 2, 6);
+        c.put(1, 0, 61);
+        due(c.storm(1, 1), NONE);
         lay(c, 1, 32, 60, 4, 6);
         due(c.storm(1, 0), NONE);
         lay(c, 1, 32, 60, 4, 6, 8, 0);
@@ -988,7 +1026,26 @@ public final class PromiseTests {
         c.set(3, 0, 2);
         c.join(2, 3);
         due(c.storm(0, 0), NONE);
-        errorsTold(c, 5, 7, 0, 0, 0);
+        errorsTold(c, 5, 8, 0, 0, 0);
+        wholeStorm();
+    }
+
+    private static void wholeStorm() {
+        SaltClouds c = new SaltClouds();
+        for (int i = 0; i < 8; i++) {
+            c.cloud(0, i, 999);
+            salt(c, i, 99, 99, 99);
+        }
+        lay(c, 0, 16, 7992, 792, 792, 792);
+        due(c.storm(0, 0), 255);
+        due(c.storm(0, 1), 1);
+        lay(c, 0, 32, 3996, 396, 396, 396);
+        due(c.storm(0, 0), 15);
+        due(c.storm(0, 1), 70);
+        due(c.stays(0), 7992);
+        due(c.paid(), 0);
+        due(c.comes(29, 1), 1);
+        due(c.comes(30, 0), NONE);
     }
 
     private static void paidOnly() {
@@ -1360,6 +1417,10 @@ public final class PromiseTests {
         c.seed(77);
         c.hours(1);
         c.image();
+        c.hours(1);
+        textOf(c, 0, "s");
+        c.check();
+        c.tell(4);
         c.set(0, 1, 1);
         salt(c, 0, 1, 1, 1);
         c.become(0, 69);
@@ -1369,7 +1430,6 @@ public final class PromiseTests {
         c.wind(1, 3);
         textOf(c, 1, "8");
         feedAll(c, "+1");
-        textOf(c, 0, "1");
         c.tell(5);
         c.loose(3);
         c.voice(0, 1, 0);
@@ -1384,17 +1444,37 @@ public final class PromiseTests {
             due(c.count(what), counts[what]);
         }
         due(c.law(1, 0, 0, 0), 7);
+        due(c.law(0, 5, 6, 7), 6);
         due(c.judge(0), -1);
         due(c.text(0), 1);
-        due(c.law(0, 6, 0, 0), 6);
+        due(c.law(0, 5, 6, 7), 5);
+        due(c.check(), 1);
         due(c.told(2), 1);
         c.hill(4, 9);
         c.hours(1);
         due(c.restore(), 1);
+        due(c.tell(1), 2);
+        c.restore();
         due(c.hill(4, 0), 2);
         due(c.wind(1, 0), 2);
         due(c.image(), 2);
-        due(c.tell(1), 2);
+        keptWaits();
+    }
+
+    private static void keptWaits() {
+        SaltClouds c = new SaltClouds();
+        c.cloud(0, 0, 5);
+        c.tell(6);
+        c.tell(7);
+        c.image();
+        c.check();
+        c.tell(1);
+        c.restore();
+        due(c.count(7), 2);
+        due(c.check(), 0);
+        c.restore();
+        c.tell(9);
+        due(c.check(), 3);
     }
 
     private static void telling() {
