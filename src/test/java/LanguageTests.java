@@ -24,8 +24,8 @@ public final class LanguageTests {
     }
 
     public static void main(String[] args) throws IOException {
-        String source = withoutComments(Files.readString(Path.of(args[0])));
-        theFace(Files.readString(Path.of(args[1])));
+        String source = withoutComments(Files.readString(Path.of(args[1])));
+        theFace(Files.readString(Path.of(args[0])));
         onlyFinalStatics(SaltClouds.class);
         for (Class<?> inner : SaltClouds.class.getDeclaredClasses()) {
             anInnerClass(inner);
