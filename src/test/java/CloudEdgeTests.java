@@ -139,7 +139,7 @@ public final class CloudEdgeTests {
         Edges.due(e.ofCloud(0, 11), 11);
 
         Edges.says("BEYOND.");
-        for (int cloud : new int[] {-1, 5, 8, Edges.LEAST, Edges.MOST}) {
+        for (int cloud : Edges.NO_CLOUDS) {
             Edges.refused(Edges.BEYOND, f -> f.ofCloud(cloud, 0));
         }
         for (int what : new int[] {-1, 12, Edges.LEAST, Edges.MOST}) {
@@ -169,7 +169,7 @@ public final class CloudEdgeTests {
         }
 
         Edges.says("BEYOND.");
-        for (int cloud : new int[] {-1, 5, 8, Edges.LEAST, Edges.MOST}) {
+        for (int cloud : Edges.NO_CLOUDS) {
             Edges.refused(Edges.BEYOND, d -> d.become(cloud, 0));
         }
         for (int km : new int[] {-1, 70, Edges.LEAST, Edges.MOST}) {
@@ -189,7 +189,7 @@ public final class CloudEdgeTests {
         Edges.due(c.as(2, 1), 4);
 
         Edges.says("BEYOND.");
-        for (int cloud : new int[] {-1, 5, 8, Edges.LEAST, Edges.MOST}) {
+        for (int cloud : Edges.NO_CLOUDS) {
             Edges.refused(Edges.BEYOND, d -> d.as(cloud, 0));
         }
         for (int kind : new int[] {-1, 7, Edges.LEAST, Edges.MOST}) {
@@ -225,7 +225,7 @@ public final class CloudEdgeTests {
         }
 
         Edges.says("BEYOND.");
-        for (int cloud : new int[] {-1, 5, 8, Edges.LEAST, Edges.MOST}) {
+        for (int cloud : Edges.NO_CLOUDS) {
             Edges.refused(Edges.BEYOND, d -> d.set(cloud, 1, 0));
         }
         for (int what : new int[] {-1, 5, Edges.LEAST, Edges.MOST}) {
@@ -307,7 +307,7 @@ public final class CloudEdgeTests {
         }
 
         Edges.says("BEYOND: also one twice.");
-        for (int cloud : new int[] {-1, 5, 8, Edges.LEAST, Edges.MOST}) {
+        for (int cloud : Edges.NO_CLOUDS) {
             Edges.refused(Edges.BEYOND, d -> d.join(cloud, 0));
             Edges.refused(Edges.BEYOND, d -> d.join(0, cloud));
             Edges.refused(Edges.BEYOND, d -> d.join(4, cloud));
@@ -338,7 +338,7 @@ public final class CloudEdgeTests {
         }
 
         Edges.says("BEYOND: also one twice.");
-        for (int cloud : new int[] {-1, 5, 8, Edges.LEAST, Edges.MOST}) {
+        for (int cloud : Edges.NO_CLOUDS) {
             Edges.refused(Edges.BEYOND, d -> d.part(cloud, 4));
             Edges.refused(Edges.BEYOND, d -> d.part(0, cloud));
             Edges.refused(Edges.BEYOND, d -> d.part(4, cloud));

@@ -21,6 +21,9 @@ final class Edges {
     static final int KIND = LOW - 5;
     static final int LEAST = Integer.MIN_VALUE;
     static final int MOST = Integer.MAX_VALUE;
+    /** None of these is a CLOUD of sky(). */
+    static final int[] NO_CLOUDS = {-1, 5, 8, LEAST, MOST};
+    static final int[] NO_SHEETS = {-1, 4, LEAST, MOST};
 
     private static final int TERMS = 0;
     /** A full stop ends a sentence, but not in "1 .. 8". */
@@ -298,6 +301,16 @@ final class Edges {
         SaltClouds c = new SaltClouds();
         text(c, 0, bytes);
         return c.law(0, t, w, s);
+    }
+
+    /** Over the sea, with m 0, it is NOBODY when WATER is 301. */
+    static SaltClouds fading(int... waters) {
+        SaltClouds c = new SaltClouds();
+        for (int i = 0; i < waters.length; i++) {
+            c.cloud(0, 0, waters[i]);
+            c.set(i, 2, 30);
+        }
+        return c;
     }
 
     static void hours(SaltClouds c, int n) {

@@ -145,7 +145,7 @@ public final class HourEdgeTests {
         for (int n : new int[] {-1, 201, Edges.LEAST, Edges.MOST}) {
             Edges.refused(Edges.BEYOND, d -> d.then(n, 0, 2));
         }
-        for (int cloud : new int[] {-1, 5, 8, Edges.LEAST, Edges.MOST}) {
+        for (int cloud : Edges.NO_CLOUDS) {
             Edges.refused(Edges.BEYOND, d -> d.then(0, cloud, 2));
         }
         for (int what : new int[] {-1, 0, 1, 7, 9, 10, 11, 12, Edges.LEAST, Edges.MOST}) {

@@ -3,9 +3,6 @@ import java.util.function.Supplier;
 
 /** Each sentence of promises 27 to 40, draws, voices, sheets, images, what is told, at its edges. */
 public final class SheetEdgeTests {
-    private static final int[] NO_CLOUDS = {-1, 5, 8, Edges.LEAST, Edges.MOST};
-    private static final int[] NO_SHEETS = {-1, 4, Edges.LEAST, Edges.MOST};
-
     private SheetEdgeTests() {
     }
 
@@ -65,7 +62,7 @@ public final class SheetEdgeTests {
         Edges.due(c.voice(0, 1, Edges.MOST), -1);
 
         Edges.says("BEYOND.");
-        for (int cloud : NO_CLOUDS) {
+        for (int cloud : Edges.NO_CLOUDS) {
             Edges.refused(Edges.BEYOND, d -> d.voice(cloud, 0, 1));
         }
         for (int act : new int[] {-1, 4, Edges.LEAST, Edges.MOST}) {
@@ -125,7 +122,7 @@ public final class SheetEdgeTests {
         }
 
         Edges.says("BEYOND.");
-        for (int sheet : NO_SHEETS) {
+        for (int sheet : Edges.NO_SHEETS) {
             Edges.refused(Edges.BEYOND, d -> d.sheet(sheet, 8, 1));
             Edges.refused(Edges.BEYOND, d -> d.sheet(sheet, 0, 1));
             Edges.refused(Edges.BEYOND, d -> d.sheet(sheet, 8, -1));
@@ -179,7 +176,7 @@ public final class SheetEdgeTests {
         Edges.due(stored(32, Edges.LEAST + 999, 999), 0);
 
         Edges.says("BEYOND: no such SHEET.");
-        for (int sheet : NO_SHEETS) {
+        for (int sheet : Edges.NO_SHEETS) {
             Edges.refused(Edges.BEYOND, d -> d.put(sheet, 0, 9));
         }
 
@@ -237,7 +234,7 @@ public final class SheetEdgeTests {
         }
 
         Edges.says("BEYOND: no such SHEET.");
-        for (int sheet : NO_SHEETS) {
+        for (int sheet : Edges.NO_SHEETS) {
             Edges.refused(Edges.BEYOND, d -> d.move(sheet, 0, 0, 0, 1));
             Edges.refused(Edges.BEYOND, d -> d.move(0, 0, sheet, 0, 1));
             Edges.refused(Edges.BEYOND, d -> d.move(3, 0, sheet, 0, 1));
@@ -311,7 +308,7 @@ public final class SheetEdgeTests {
         Edges.due(most.hill(0, 5), 5);
 
         Edges.says("BEYOND: no such SHEET.");
-        for (int sheet : NO_SHEETS) {
+        for (int sheet : Edges.NO_SHEETS) {
             Edges.refused(Edges.BEYOND, d -> d.hills(sheet));
         }
 
@@ -349,7 +346,7 @@ public final class SheetEdgeTests {
         Edges.due(full.judge(0), 8);
 
         Edges.says("BEYOND: no such SHEET.");
-        for (int sheet : NO_SHEETS) {
+        for (int sheet : Edges.NO_SHEETS) {
             Edges.refused(Edges.BEYOND, d -> d.judge(sheet));
         }
 

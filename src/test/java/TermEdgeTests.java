@@ -574,16 +574,6 @@ public final class TermEdgeTests {
         Edges.due(Edges.read(1, "s"), -10);
     }
 
-    /** Over the sea, with m 0, it is NOBODY when WATER is 301. */
-    private static SaltClouds fading(int... waters) {
-        SaltClouds c = new SaltClouds();
-        for (int i = 0; i < waters.length; i++) {
-            c.cloud(0, 0, waters[i]);
-            c.set(i, 2, 30);
-        }
-        return c;
-    }
-
     private static void thoughts() {
         Edges.says("(All this is only thought.)");
         SaltClouds thought = Edges.sky();
@@ -608,15 +598,15 @@ public final class TermEdgeTests {
         }
 
         Edges.says("NOBODY BY: behind how many HOURS (0 to 200) a CLOUD is NOBODY first.");
-        Edges.due(fading(301).nobodyBy(0), 0);
-        Edges.due(fading(300).nobodyBy(0), 1);
-        Edges.due(fading(101).nobodyBy(0), 200);
-        Edges.due(fading(100).nobodyBy(0), Edges.NONE);
+        Edges.due(Edges.fading(301).nobodyBy(0), 0);
+        Edges.due(Edges.fading(300).nobodyBy(0), 1);
+        Edges.due(Edges.fading(101).nobodyBy(0), 200);
+        Edges.due(Edges.fading(100).nobodyBy(0), Edges.NONE);
 
         Edges.says("FIRST: of all that are THERE the one for which that is soonest; of several the least.");
-        Edges.due(fading(100, 101, 102, 102).first(), 2);
-        Edges.due(fading(302, 301).first(), 0);
-        SaltClouds gone = fading(200, 200, 299);
+        Edges.due(Edges.fading(100, 101, 102, 102).first(), 2);
+        Edges.due(Edges.fading(302, 301).first(), 0);
+        SaltClouds gone = Edges.fading(200, 200, 299);
         gone.join(1, 0);
         Edges.due(gone.ofCloud(1, 8), 15);
         gone.set(1, 1, 800);

@@ -2,9 +2,6 @@ import java.io.IOException;
 
 /** Each sentence of promises 18 to 26, what would be, at its edges. */
 public final class WouldBeEdgeTests {
-    private static final int[] NO_CLOUDS = {-1, 5, 8, Edges.LEAST, Edges.MOST};
-    private static final int[] NO_SHEETS = {-1, 4, Edges.LEAST, Edges.MOST};
-
     private WouldBeEdgeTests() {
     }
 
@@ -22,62 +19,52 @@ public final class WouldBeEdgeTests {
         Edges.end("WouldBeEdgeTests", 18, 26);
     }
 
-    /** Over the sea, with m 0, it is NOBODY when WATER is 301. */
-    private static SaltClouds fading(int... waters) {
-        SaltClouds c = new SaltClouds();
-        for (int i = 0; i < waters.length; i++) {
-            c.cloud(0, 0, waters[i]);
-            c.set(i, 2, 30);
-        }
-        return c;
-    }
-
     private static void nobodyBy() {
         Edges.promise(18);
         Edges.says("NOBODY BY.");
-        Edges.due(fading(301).nobodyBy(0), 0);
-        Edges.due(fading(300).nobodyBy(0), 1);
-        Edges.due(fading(102).nobodyBy(0), 199);
-        Edges.due(fading(101).nobodyBy(0), 200);
-        SaltClouds joined = fading(10, 5);
+        Edges.due(Edges.fading(301).nobodyBy(0), 0);
+        Edges.due(Edges.fading(300).nobodyBy(0), 1);
+        Edges.due(Edges.fading(102).nobodyBy(0), 199);
+        Edges.due(Edges.fading(101).nobodyBy(0), 200);
+        SaltClouds joined = Edges.fading(10, 5);
         joined.join(0, 1);
         Edges.due(joined.nobodyBy(1), 0);
-        SaltClouds late = fading(0);
+        SaltClouds late = Edges.fading(0);
         Edges.hours(late, 9999);
         late.set(0, 1, 101);
         Edges.due(late.nobodyBy(0), 200);
         Edges.due(late.count(1), 9999);
 
         Edges.says("BEYOND.");
-        for (int cloud : NO_CLOUDS) {
+        for (int cloud : Edges.NO_CLOUDS) {
             Edges.refused(Edges.BEYOND, d -> d.nobodyBy(cloud));
         }
 
         Edges.says("NONE: not by 200.");
-        Edges.due(fading(100).nobodyBy(0), Edges.NONE);
-        Edges.due(fading(0).nobodyBy(0), Edges.NONE);
-        Edges.refused(() -> fading(100, 101), Edges.NONE, d -> d.nobodyBy(0));
+        Edges.due(Edges.fading(100).nobodyBy(0), Edges.NONE);
+        Edges.due(Edges.fading(0).nobodyBy(0), Edges.NONE);
+        Edges.refused(() -> Edges.fading(100, 101), Edges.NONE, d -> d.nobodyBy(0));
     }
 
     private static void first() {
         Edges.promise(19);
         Edges.says("FIRST.");
-        Edges.due(fading(100, 101, 101).first(), 1);
-        Edges.due(fading(300, 299, 301).first(), 2);
-        Edges.due(fading(300, 302, 301, 999).first(), 1);
-        Edges.due(fading(299, 300, 300).first(), 1);
-        SaltClouds gone = fading(200, 299, 101);
+        Edges.due(Edges.fading(100, 101, 101).first(), 1);
+        Edges.due(Edges.fading(300, 299, 301).first(), 2);
+        Edges.due(Edges.fading(300, 302, 301, 999).first(), 1);
+        Edges.due(Edges.fading(299, 300, 300).first(), 1);
+        SaltClouds gone = Edges.fading(200, 299, 101);
         gone.join(2, 1);
         gone.set(2, 1, 101);
         gone.set(2, 2, 30);
         Edges.due(gone.first(), 0);
-        Edges.due(fading(100, 100, 100, 100, 100, 100, 100, 101).first(), 7);
+        Edges.due(Edges.fading(100, 100, 100, 100, 100, 100, 100, 101).first(), 7);
 
         Edges.says("NONE: for none.");
         Edges.refused(SaltClouds::new, Edges.NONE, SaltClouds::first);
-        Edges.refused(() -> fading(100), Edges.NONE, SaltClouds::first);
+        Edges.refused(() -> Edges.fading(100), Edges.NONE, SaltClouds::first);
         Edges.refused(() -> {
-            SaltClouds c = fading(10, 10);
+            SaltClouds c = Edges.fading(10, 10);
             c.join(0, 1);
             return c;
         }, Edges.NONE, SaltClouds::first);
@@ -199,7 +186,7 @@ public final class WouldBeEdgeTests {
         Edges.due(late.meets(0, 1), 9);
 
         Edges.says("BEYOND: also one twice.");
-        for (int cloud : NO_CLOUDS) {
+        for (int cloud : Edges.NO_CLOUDS) {
             Edges.refused(Edges.BEYOND, d -> d.meets(cloud, 0));
             Edges.refused(Edges.BEYOND, d -> d.meets(0, cloud));
             Edges.refused(Edges.BEYOND, d -> d.meets(4, cloud));
@@ -244,7 +231,7 @@ public final class WouldBeEdgeTests {
         }
 
         Edges.says("BEYOND.");
-        for (int sheet : NO_SHEETS) {
+        for (int sheet : Edges.NO_SHEETS) {
             Edges.refused(Edges.BEYOND, d -> d.storm(sheet, 0));
         }
         for (int what : new int[] {-1, 2, Edges.LEAST, Edges.MOST}) {
@@ -316,7 +303,7 @@ public final class WouldBeEdgeTests {
         Edges.due(Edges.sky().sun(4, 99, 1), 0);
 
         Edges.says("BEYOND: also v 0 (none is ever less).");
-        for (int cloud : NO_CLOUDS) {
+        for (int cloud : Edges.NO_CLOUDS) {
             Edges.refused(Edges.BEYOND, d -> d.sun(cloud, 1, 0));
         }
         for (int v : new int[] {0, -1, 100, Edges.LEAST, Edges.MOST}) {
@@ -351,10 +338,10 @@ public final class WouldBeEdgeTests {
         Edges.due(winding(10, 0, 0).winds(0, 3, 0), -1);
 
         Edges.says("BEYOND.");
-        for (int cloud : NO_CLOUDS) {
+        for (int cloud : Edges.NO_CLOUDS) {
             Edges.refused(Edges.BEYOND, d -> d.winds(cloud, 0, 0));
         }
-        for (int sheet : NO_SHEETS) {
+        for (int sheet : Edges.NO_SHEETS) {
             Edges.refused(Edges.BEYOND, d -> d.winds(0, sheet, 0));
             Edges.refused(Edges.BEYOND, d -> d.winds(4, sheet, 0));
         }
