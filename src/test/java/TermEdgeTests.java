@@ -409,6 +409,13 @@ public final class TermEdgeTests {
         SaltClouds c = new SaltClouds();
         Edges.due(Edges.text(c, 0, "0|".repeat(24) + "00"), 1);
         Edges.due(c.law(0, 1, 1, 1), 0);
+        String five = "!!!!!t+";
+        String four = "!!!!t+";
+        Edges.due(Edges.text(c, 0, five + five + five + four + four + four + four + "!!!!t"), 1);
+        Edges.due(c.law(0, 0, 0, 0), 3);
+        Edges.due(c.law(0, 9, 0, 0), 5);
+        Edges.due(Edges.text(c, 0, "w"), 1);
+        Edges.due(c.law(0, 1, 7, 1), 7);
         Edges.feed(c, "1".repeat(50));
         Edges.due(c.feed('1', 1), Edges.FULL);
         Edges.due(c.text(0), -14);
@@ -724,6 +731,14 @@ public final class TermEdgeTests {
             Edges.due(hill.pay(), 99 + (row[1] == 99 ? 99 : 0));
             Edges.due(hill.ofCloud(0, 3), row[1] == 99 ? 99 : 0);
             Edges.due(hill.ofCloud(1, 3), row[1] == 99 ? 0 : row[1]);
+        }
+
+        SaltClouds full = Edges.clouds(0, 3, 100, 0, 3, 100, 0, 3, 100, 0, 3, 100, 0, 3, 100, 0, 3, 100, 0, 3, 100, 0, 3, 100);
+        Edges.text(full, 1, "2");
+        Edges.due(full.paid(), 8 * 7 * 2);
+        Edges.due(full.pay(), 8 * 7 * 2);
+        for (int cloud = 0; cloud < 8; cloud++) {
+            Edges.due(full.ofCloud(cloud, 3), 100);
         }
 
         Edges.says("PAID: how much WATER would go in one such round.");
